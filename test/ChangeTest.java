@@ -9,6 +9,7 @@ public final class ChangeTest {
         promise47Promise();
         promise47Faults();
         promise47TheGameWouldBeOver();
+        promise47LastNumber();
         promise47ReplyAfterTheMove();
         promise48Resend();
         promise49Advance();
@@ -162,6 +163,25 @@ public final class ChangeTest {
         MulePostBishops z = Check.start("game 4 9;bishop 0 0 0;bishop 1 3 3;bishop 0 0 1;pass 1 1 1;");
         Check.wrongArgument("a capture of the last", () -> z.promise(1, 0, 0, 15, 15, 10));
         Check.same("another move", 2, z.promise(1, 0, 1, 4, 15, 0));
+    }
+
+    private static void promise47LastNumber() {
+        MulePostBishops x = Check.start("game 8 60;bishop 0 0 0;bishop 0 0 2;bishop 1 7 0;bishop 1 7 7;pass 1 9 9;");
+        for (int i = 0; i < 29; i++) {
+            x.move(0, i % 2 == 0 ? 2 : 11, i % 2 == 0 ? 11 : 2, 0);
+            x.advance(2);
+            x.move(1, i % 2 == 0 ? 56 : 49, i % 2 == 0 ? 49 : 56, 0);
+            x.advance(2);
+        }
+        Check.same("the 60th move", 60, x.promise(1, 0, 11, 2, 63, 0));
+        x.move(0, 11, 2, 0);
+        x.advance(2);
+        Check.same("moveCount(1)", 60, x.moveCount(1));
+        Check.same("moveCount(0)", 60, x.moveCount(0));
+        Check.same("keptPromises(1)", 1, x.keptPromises(1));
+        Check.same("movedTo(0, 60)", 0, x.movedTo(0, 60));
+        Check.same("winner(0)", 1, x.winner(0));
+        Check.same("the text of the moves", true, Check.moves(x, 0).endsWith(" 11-2 63x0"));
     }
 
     private static void promise47ReplyAfterTheMove() {

@@ -130,5 +130,7 @@ public final class StatisticsTest {
         MulePostBishops y = Check.start("game 4 9;bishop 0 0 0;bishop 0 0 1;bishop 1 2 2;pass 1 1 1;");
         y.move(0, 0, 10, 0);
         Check.same("after a capture", 0, y.contradictions());
+        y.undo();
+        Check.same("after its undo", 0, y.contradictions());
     }
 }

@@ -11,6 +11,7 @@ public final class TextTest {
         promise2Append();
         promise3Truncate();
         promise4Load();
+        promise4AfterForecasts();
         promise4Grammar();
         promise4Ranges();
         promise4Limits();
@@ -68,6 +69,13 @@ public final class TextTest {
         Check.same("truncate(799)", 1, x.truncate(799));
         Check.wrongState("append of two to 799", () -> x.append(1, 0, 0, 0, 1));
         Check.same("append of the 800th", 800, x.append(0, 0, 0, 0, 1));
+        Check.same("truncate(797)", 3, x.truncate(797));
+        Check.wrongState("a is too long", () -> x.append(-1, 0, 0, 0, 0));
+        Check.wrongState("b is too long", () -> x.append(0, -1, 0, 0, 0));
+        Check.wrongState("c is too long", () -> x.append(0, 0, -1, 0, 0));
+        Check.wrongState("d is too long", () -> x.append(0, 0, 0, -1, 0));
+        Check.wrongState("e is too long", () -> x.append(0, 0, 0, 0, -1));
+        Check.same("what fits", 800, x.append(1, 0, 1 << 24, 0, 1 << 8));
     }
 
     private static void promise3Truncate() {
@@ -132,6 +140,58 @@ public final class TextTest {
         Check.same("promises are forgotten", 2, x.promise(1, 0, 20, 16, 1, 5));
     }
 
+    /** A new game is new whatever was played, loaded or foretold before. */
+    private static void promise4AfterForecasts() {
+        // move 2 never arrives, and move 4 is stored for ever
+        MulePostBishops x = Check.start("game 8 60; bishop 0 0 0; bishop 1 7 0; pass 9 0 0; pass 1 9 9;");
+        x.move(0, 0, 9, 1);
+        x.promise(0, 1, 56, 49, 9, 18);
+        x.advance(2);
+        x.move(1, 56, 49, 0);
+        x.move(1, 49, 42, 1);
+        x.resend(3, 1);
+        Check.same("daysUntilTurn(0)", NONE, x.daysUntilTurn(0));
+        MulePostBishops y = Games.overtaking();
+        y.resend(0, 0);
+        y.resend(3, 1);
+        Check.same("daysUntilTurn(1)", NONE, y.daysUntilTurn(1));
+        MulePostBishops z = Games.overtaking();
+        z.resend(0, 0);
+        z.advance(3);
+        z.resend(0, 0);
+        Check.same("daysUntilTurn(0)", 5, z.daysUntilTurn(0));
+        MulePostBishops w = Check.start("game 4 9;bishop 0 0 0;bishop 1 2 2;bishop 1 3 2;pass 1 1 1;");
+        w.move(0, 0, 10, 0);
+        Check.same("daysUntilTurn(1)", 2, w.daysUntilTurn(1));
+        MulePostBishops[] games = {x, y, z, w};
+        for (MulePostBishops game : games) {
+            Check.same("load()", 0, Check.load(game, "game 4 9;bishop 0 0 0;bishop 0 0 1;bishop 1 2 2;bishop 1 0 3;pass 1 1 1;"));
+            Check.same("day()", 0, game.day());
+            Check.same("duplicateCount()", 0, game.duplicateCount());
+            Check.same("queues", "00", "" + game.queueLength(0, 0) + game.queueLength(0, 1));
+            for (int p = 0; p < 2; p++) {
+                Check.same("a desk", "0 0 0 0 0.0", game.moveCount(p) + " " + game.storedMoves(p) + " "
+                        + game.keptPromises(p) + " " + game.longestWait(p) + " " + game.meanWait(p));
+            }
+            Check.same("meanTravel()", 0.0f, game.meanTravel());
+            Check.same("contradictions()", 0, game.contradictions());
+            Check.same("letterCount()", 0, game.letterCount());
+            game.move(0, 0, 10, 0);
+            Check.same("letterState(0)", MulePostBishops.WAITING, game.letterState(0));
+            Check.same("arrivalDay(0)", 2, game.arrivalDay(0));
+            Check.same("isTurn(1)", false, game.isTurn(1));
+            Check.same("arrivals", 1, game.advance(2));
+            Check.same("isTurn(1)", true, game.isTurn(1));
+            Check.same("meanTravel()", 2.0f, game.meanTravel());
+            Check.same("contradictions()", 0, game.contradictions());
+            game.advance(1);
+            game.move(1, 3, 6, 0);
+            game.advance(2);
+            Check.same("meanWait(0)", 5.0, game.meanWait(0));
+            Check.same("meanWait(1)", 0.0, game.meanWait(1));
+        }
+    }
+
     private static void wrong(String text, int code, int position) {
         MulePostBishops x = new MulePostBishops();
         Check.same("load of " + text, code, Check.load(x, text));
@@ -146,6 +206,9 @@ public final class TextTest {
         wrong(" gam 4 1;pass 1 1 1;", SYNTAX, 1);
         wrong("games 4 1;pass 1 1 1;", SYNTAX, 0);
         wrong("Game 4 1;pass 1 1 1;", SYNTAX, 0);
+        wrong("hame 4 1;pass 1 1 1;", SYNTAX, 0);
+        wrong("gamez 4 1;pass 1 1 1;", SYNTAX, 0);
+        wrong("5 4;pass 1 1 1;", SYNTAX, 0);
         wrong("game four 1;pass 1 1 1;", SYNTAX, 5);
         wrong("game 4;", SYNTAX, 6);
         wrong("game 4 1", SYNTAX, 8);
@@ -321,6 +384,9 @@ public final class TextTest {
         MulePostBishops x = new MulePostBishops();
         Check.same("without blanks", 3, Check.run(x, "days01;repeat1(days2;days\n3;);\n"));
         Check.same("day()", 6, x.day());
+        Check.same("an open bracket", NONE, Check.run(x, "repeat 2 (repeat 2 (days 1;"));
+        Check.same("and then none", 2, Check.run(x, "days 1;repeat 1 (repeat 1 (days 2;););"));
+        Check.same("day()", 9, x.day());
     }
 
     private static void promise5Ranges() {

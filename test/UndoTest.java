@@ -12,6 +12,7 @@ public final class UndoTest {
         promise57Save();
         promise58Restore();
         promise58Everything();
+        promise58AfterOtherMoves();
         Check.end();
     }
 
@@ -152,6 +153,30 @@ public final class UndoTest {
         x.advance(2);
         Check.same("undo()", 0, x.undo());
         Check.same("day()", 0, x.day());
+    }
+
+    private static void promise58AfterOtherMoves() {
+        MulePostBishops x = Check.start("game 4 9;bishop 0 0 0;bishop 0 0 1;bishop 1 2 2;bishop 1 3 2;pass 1 1 1;");
+        x.move(0, 0, 10, 0);
+        x.save(0);
+        x.advance(2);
+        x.save(1);
+        x.undo();
+        x.undo();
+        x.advance(7);
+        x.move(0, 0, 5, 0);
+        x.advance(2);
+        Check.same("another move", "0-5", Check.moves(x, 1));
+        Check.same("another arrival", 9, x.arrivalDay(0));
+        Check.same("restore(1)", 2, x.restore(1));
+        Check.same("the capture", "0x10", Check.moves(x, 1));
+        Check.same("arrivalDay(0)", 2, x.arrivalDay(0));
+        Check.same("contradictions()", 0, x.contradictions());
+        Check.same("restore(0)", 0, x.restore(0));
+        Check.same("the capture", "0x10", Check.moves(x, 0));
+        x.advance(3);
+        Check.same("meanTravel()", 2.0f, x.meanTravel());
+        Check.same("contradictions()", 0, x.contradictions());
     }
 
     private static void promise58Everything() {

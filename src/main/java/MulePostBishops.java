@@ -774,7 +774,6 @@ public final class MulePostBishops {
         void begin() {
             error = 0;
             errorAt = NONE;
-            start = 0;
             stop = 0;
             step();
         }
