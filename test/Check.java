@@ -1,19 +1,44 @@
+import java.io.IOException;
+import java.io.UncheckedIOException;
+import java.nio.file.Files;
+import java.nio.file.Path;
 import java.util.concurrent.Callable;
 
 /** Counts wrong answers; used by every test of the project. */
 final class Check {
     private static int wrong = 0;
     private static int checks = 0;
+    private static String document = "";
+    private static String sentence = "";
 
     private Check() {
+    }
+
+    /** Names the sentence of the document that the next checks are about; it must stand there word by word. */
+    static void about(String words) {
+        if (document.isEmpty()) {
+            try {
+                document = Files.readString(Path.of("../shared/DOC.md")).replaceAll("\\s+", " ");
+            } catch (IOException e) {
+                throw new UncheckedIOException(e);
+            }
+        }
+        sentence = "";
+        same("the document, asked for \"" + words + "\",", true, document.contains(words));
+        sentence = words;
     }
 
     static void same(String call, Object want, Object got) {
         checks++;
         if (!want.equals(got)) {
-            wrong++;
-            System.out.println(call + " answered " + got + ", due is " + want);
+            complain(call, want, got);
         }
+    }
+
+    private static void complain(String call, Object want, Object got) {
+        wrong++;
+        System.out.println(call + " answered " + got + ", due is " + want
+                + (sentence.isEmpty() ? "" : "  [" + sentence + "]"));
     }
 
     /** The exception must be of the very class that the document names: one of the machine's is a class below it. */
@@ -26,8 +51,7 @@ final class Check {
             got = e.getClass();
         }
         if (got != want) {
-            wrong++;
-            System.out.println(call + " answered " + got + ", due is " + want);
+            complain(call, want, got);
         }
     }
 

@@ -23,9 +23,10 @@ final class Games {
 
     /** A game on which days pass until the given day. */
     static void passUntil(MulePostBishops game, int day) {
-        while (game.day() < day) {
+        for (int i = 0; i < 200 && game.day() < day; i++) {
             game.advance(Math.min(60, day - game.day()));
         }
+        Check.same("day()", day, game.day());
     }
 
     /** Player 0 has 80 letters posted: one move and its copies. */
