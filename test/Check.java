@@ -14,8 +14,8 @@ final class Check {
     private Check() {
     }
 
-    /** Names the sentence of the document that the next checks are about; it must stand there word by word. */
-    static void about(String words) {
+    /** Names the sentences of the document that the next checks are about; they must stand there word by word. */
+    static void about(String... sentences) {
         if (document.isEmpty()) {
             try {
                 document = Files.readString(Path.of("../shared/DOC.md")).replaceAll("\\s+", " ");
@@ -24,8 +24,10 @@ final class Check {
             }
         }
         sentence = "";
-        same("the document, asked for \"" + words + "\",", true, document.contains(words));
-        sentence = words;
+        for (String words : sentences) {
+            same("the document, asked for \"" + words + "\",", true, document.contains(words));
+        }
+        sentence = String.join(" / ", sentences);
     }
 
     static void same(String call, Object want, Object got) {

@@ -6,8 +6,14 @@ import java.util.List;
 import java.util.Map;
 import java.util.Random;
 
-/** Makes the same calls of the class and of the reference and compares every answer; the seeds are fixed. */
+/**
+ * Makes the same calls of the class and of the reference and compares every answer; the seeds are fixed. An object is used for
+ * at most 512 calls: everything is asked of further objects, on which the same calls were made before.
+ */
 public final class FuzzTest {
+    private static final int LIFE = 512;
+    // leaves room for one more text, and for questions
+    private static final int LONGEST_LOG = 400;
     private static final int[] WILD = {-1, 0, 1, 2, 3, 4, 12, 35, 36, 63, 64, 79, 80, 400, 800, -64, Integer.MIN_VALUE,
         Integer.MAX_VALUE, 1 << 26, -(1 << 26), 1 << 30};
     private static final Map<String, Method> OURS = new HashMap<>();
@@ -19,7 +25,21 @@ public final class FuzzTest {
     private final Random random;
     private final MulePostBishops game = new MulePostBishops();
     private final Reference reference = new Reference();
-    private final List<String> log = new ArrayList<>();
+    private final List<Query> log = new ArrayList<>();
+
+    private record Query(String name, int[] numbers) {
+        Object[] arguments() {
+            Object[] all = new Object[numbers.length];
+            for (int i = 0; i < numbers.length; i++) {
+                all[i] = numbers[i];
+            }
+            return all;
+        }
+
+        String text() {
+            return name + java.util.Arrays.toString(numbers);
+        }
+    }
 
     private FuzzTest(long seed) {
         random = new Random(seed);
@@ -64,11 +84,11 @@ public final class FuzzTest {
                 return false;
             }
         }
-        int calls = 20 + random.nextInt(200);
-        for (int i = 0; i < calls; i++) {
-            if (!step() || !compareAll(i % 8 == 0)) {
-                for (String line : log) {
-                    System.out.println(line);
+        int steps = 20 + random.nextInt(200);
+        for (int i = 0; i < steps && log.size() < LONGEST_LOG; i++) {
+            if (!step() || !askAll(questions(i % 8 == 0))) {
+                for (Query query : log) {
+                    System.out.println(query.text());
                 }
                 return false;
             }
@@ -83,7 +103,7 @@ public final class FuzzTest {
     private boolean step() throws Exception {
         Reference.World world = reference.world();
         int passes = world.passes.size();
-        switch (random.nextInt(22)) {
+        switch (random.nextInt(23)) {
             case 0, 1, 2, 3, 4, 5: {
                 int player = world.turn(0) && (random.nextBoolean() || !world.turn(1)) ? 0 : 1;
                 List<int[]> ways = Reference.waysOf(world.sides[player].board, player);
@@ -110,6 +130,8 @@ public final class FuzzTest {
                 return random.nextInt(3) == 0 ? setupAgain() : call("undo");
             case 20:
                 return random.nextInt(3) > 0 ? call("save", wild(2)) : call("restore", wild(2));
+            case 21:
+                return call(random.nextBoolean() ? "writeBoard" : "writeMoves", wild(2));
             default:
                 return oddText();
         }
@@ -280,103 +302,123 @@ public final class FuzzTest {
         return true;
     }
 
-    private boolean compareAll(boolean withForecasts) throws Exception {
+    /** Questions about everything that an object tells; none of them changes anything. */
+    private List<Query> questions(boolean withForecasts) {
         Reference.World world = reference.world();
         int passes = world.passes.size();
         int squares = world.size * world.size;
+        int letters = world.letters.size();
+        List<Query> all = new ArrayList<>();
         for (String name : NAMES) {
-            if (List.of("append", "truncate", "load", "runScript", "move", "promise", "resend", "advance", "addMule",
-                    "setSnow", "undo", "save", "restore").contains(name)) {
-                continue;
-            }
-            boolean same = true;
             switch (name) {
-                case "bishopOwner" -> {
-                    for (int i = -1; i <= squares; i++) {
-                        same &= quiet(name, 0, i) && quiet(name, 1, i);
-                    }
-                }
+                case "append", "truncate", "load", "runScript", "move", "promise", "resend", "advance", "addMule", "setSnow", "undo",
+                        "save", "restore", "writeBoard", "writeMoves" -> { }
+                case "bishopOwner" -> forBoth(all, name, -1, squares);
+                case "movedFrom", "movedTo" -> forBoth(all, name, -1, 63);
                 case "canMove" -> {
                     for (int i = 0; i < 20; i++) {
-                        same &= quiet(name, random.nextInt(2), wild(squares), wild(squares));
-                    }
-                }
-                case "movedFrom", "movedTo" -> {
-                    for (int i = -1; i < 64; i++) {
-                        same &= quiet(name, 0, i) && quiet(name, 1, i);
+                        ask(all, name, random.nextInt(2), wild(squares), wild(squares));
                     }
                 }
                 case "snowDepth" -> {
                     for (int i = -1; i < 13; i++) {
-                        same &= quiet(name, wild(passes), i);
+                        ask(all, name, wild(passes), i);
                     }
                 }
                 case "bishopCount", "mobility" -> {
-                    same = quiet(name, 0, 0) && quiet(name, 0, 1) && quiet(name, 1, 0) && quiet(name, 1, 1)
-                            && quiet(name, wild(2), wild(2));
+                    forBoth(all, name, 0, 1);
+                    ask(all, name, wild(2), wild(2));
                 }
                 case "mules", "queueLength" -> {
                     for (int i = -1; i <= passes; i++) {
-                        same &= quiet(name, i, 0) && quiet(name, i, 1) && quiet(name, i, wild(2));
+                        ask(all, name, i, 0);
+                        ask(all, name, i, 1);
+                        ask(all, name, i, wild(2));
                     }
                 }
-                case "writer", "letterNumber", "isPromise", "letterState" -> {
-                    for (int i = -1; i <= world.letters.size(); i++) {
-                        same &= quiet(name, i);
+                case "writer", "letterNumber", "isPromise", "letterState" -> forEach(all, name, -1, letters);
+                case "arrivalDay", "daysUntilTurn", "fastestPass", "daysUntilEqual" -> {
+                    if (withForecasts) {
+                        forecast(all, name, letters);
                     }
                 }
-                case "arrivalDay" -> {
-                    same = !withForecasts || quiet(name, wild(world.letters.size()))
-                            && quiet(name, world.letters.size() - 1);
-                }
-                case "writeBoard", "writeMoves", "outputByte" -> {
-                    same = withForecasts ? written(name) : quiet("outputByte", wild(400));
-                }
-                case "daysUntilTurn", "fastestPass" -> {
-                    same = !withForecasts || quiet(name, 0) && quiet(name, 1) && quiet(name, wild(2));
-                }
-                case "daysUntilEqual" -> {
-                    same = !withForecasts || quiet(name);
+                case "outputByte" -> {
+                    ask(all, name, wild(400));
+                    if (withForecasts) {
+                        forEach(all, name, -1, 400);
+                    }
                 }
                 default -> {
-                    int count = OURS.get(name).getParameterCount();
-                    if (count == 0) {
-                        same = quiet(name);
+                    if (OURS.get(name).getParameterCount() == 0) {
+                        ask(all, name);
                     } else {
-                        same = quiet(name, 0) && quiet(name, 1) && quiet(name, WILD[random.nextInt(WILD.length)]);
+                        forEach(all, name, 0, 1);
+                        ask(all, name, WILD[random.nextInt(WILD.length)]);
                     }
                 }
             }
-            if (!same) {
+        }
+        return all;
+    }
+
+    private static void ask(List<Query> all, String name, int... numbers) {
+        all.add(new Query(name, numbers));
+    }
+
+    private static void forEach(List<Query> all, String name, int first, int last) {
+        for (int i = first; i <= last; i++) {
+            ask(all, name, i);
+        }
+    }
+
+    private static void forBoth(List<Query> all, String name, int first, int last) {
+        for (int i = first; i <= last; i++) {
+            ask(all, name, 0, i);
+            ask(all, name, 1, i);
+        }
+    }
+
+    private void forecast(List<Query> all, String name, int letters) {
+        if (name.equals("daysUntilEqual")) {
+            ask(all, name);
+        } else if (name.equals("arrivalDay")) {
+            ask(all, name, wild(letters));
+            ask(all, name, letters - 1);
+        } else {
+            forEach(all, name, 0, 1);
+            ask(all, name, wild(2));
+        }
+    }
+
+    private boolean askAll(List<Query> queries) throws Exception {
+        MulePostBishops other = null;
+        int used = LIFE;
+        for (Query query : queries) {
+            if (used == LIFE) {
+                other = new MulePostBishops();
+                used = log.size();
+                for (Query past : log) {
+                    answer(OURS.get(past.name), other, past.arguments());
+                }
+            }
+            used++;
+            if (!agree(query, other)) {
                 return false;
             }
         }
         return true;
     }
 
-    private boolean written(String name) throws Exception {
-        if (name.equals("outputByte")) {
-            return true;
-        }
-        boolean same = quiet(name, random.nextInt(2));
-        for (int i = -1; i <= 400 && same; i++) {
-            same = quiet("outputByte", i);
-        }
-        return same && quiet(name, wild(2));
-    }
-
     private boolean call(String name, int... numbers) throws Exception {
-        log.add(name + java.util.Arrays.toString(numbers));
-        return quiet(name, numbers);
+        Query query = new Query(name, numbers);
+        log.add(query);
+        return agree(query, game);
     }
 
-    private boolean quiet(String name, int... numbers) throws Exception {
-        Object[] args = new Object[numbers.length];
-        for (int i = 0; i < numbers.length; i++) {
-            args[i] = numbers[i];
-        }
-        Object want = answer(THEIRS.get(name), reference, args);
-        Object got = answer(OURS.get(name), game, args);
+    private boolean agree(Query query, MulePostBishops object) throws Exception {
+        String name = query.name;
+        Object want = answer(THEIRS.get(name), reference, query.arguments());
+        Object got = answer(OURS.get(name), object, query.arguments());
         if (want.equals(got)) {
             if (!(got instanceof Class)) {
                 DONE.merge(name, 1, Integer::sum);
@@ -386,7 +428,7 @@ public final class FuzzTest {
             }
             return true;
         }
-        System.out.println(name + java.util.Arrays.toString(numbers) + " answered " + got + ", due is " + want);
+        System.out.println(query.text() + " answered " + got + ", due is " + want);
         return false;
     }
 

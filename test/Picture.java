@@ -15,16 +15,20 @@ final class Picture {
     /** Everything but the text buffer and its errors. */
     static String game(MulePostBishops x) {
         StringBuilder text = new StringBuilder("output ");
-        for (int i = 0; i < LONGEST_OUTPUT && x.outputByte(i) != MulePostBishops.NONE; i++) {
-            text.append((char) x.outputByte(i));
+        int one = x.outputByte(0);
+        for (int i = 1; i <= LONGEST_OUTPUT && one != MulePostBishops.NONE; i++) {
+            text.append((char) one);
+            one = x.outputByte(i);
         }
         line(text, "undo", x.undoCount());
-        line(text, "day", x.day(), x.month(), x.boardSize(), x.moveLimit(), x.areBoardsEqual(), x.daysUntilEqual());
+        int size = x.boardSize();
+        int passes = x.passCount();
+        line(text, "day", x.day(), x.month(), size, x.moveLimit(), x.areBoardsEqual(), x.daysUntilEqual());
         line(text, "statistics", x.duplicateCount(), x.meanTravel(), x.contradictions());
         for (int player = 0; player < 2; player++) {
-            ofPlayer(text, x, player);
+            ofPlayer(text, x, player, size * size);
         }
-        for (int pass = 0; pass < x.passCount(); pass++) {
+        for (int pass = 0; pass < passes; pass++) {
             ofPass(text, x, pass);
         }
         int letters = x.letterCount();
@@ -37,9 +41,9 @@ final class Picture {
         return text.toString();
     }
 
-    private static void ofPlayer(StringBuilder text, MulePostBishops x, int p) {
+    private static void ofPlayer(StringBuilder text, MulePostBishops x, int p, int squares) {
         text.append("\nboard ");
-        for (int square = 0; square < x.boardSize() * x.boardSize(); square++) {
+        for (int square = 0; square < squares; square++) {
             text.append(".wb".charAt(x.bishopOwner(p, square) + 1));
         }
         text.append(" moves");

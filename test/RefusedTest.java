@@ -191,7 +191,8 @@ public final class RefusedTest {
 
     private static void noSuchPlayer() {
         Check.about("IndexOutOfBoundsException is thrown if a player, side, square, pass, month, letter or slot with the "
-                + "given number does not exist.");
+                + "given number does not exist.",
+                "Throws `IndexOutOfBoundsException` if there is no such player");
         for (int p : NO_PLAYERS) {
             refused("bishopOwner", NO_SUCH_THING, MIDGAME, x -> x.bishopOwner(p, 0));
             refused("bishopCount", NO_SUCH_THING, MIDGAME, x -> x.bishopCount(p, 0));
@@ -218,7 +219,8 @@ public final class RefusedTest {
 
     private static void noSuchSquare() {
         Check.about("IndexOutOfBoundsException is thrown if a player, side, square, pass, month, letter or slot with the "
-                + "given number does not exist.");
+                + "given number does not exist.",
+                "Throws `IndexOutOfBoundsException` if there is no such player or square");
         for (int square : new int[] {-1, 64, MIN, MAX}) {
             refused("bishopOwner", NO_SUCH_THING, MIDGAME, x -> x.bishopOwner(1, square));
             refused("canMove", NO_SUCH_THING, MIDGAME, x -> x.canMove(0, square, 0));
@@ -251,7 +253,8 @@ public final class RefusedTest {
 
     private static void noSuchPassOrMonth() {
         Check.about("IndexOutOfBoundsException is thrown if a player, side, square, pass, month, letter or slot with the "
-                + "given number does not exist.");
+                + "given number does not exist.",
+                "Throws `IndexOutOfBoundsException` if there is no such pass");
         for (int pass : new int[] {-1, 2, 3, 4, MIN, MAX}) {
             refused("snowDepth", NO_SUCH_THING, MIDGAME, x -> x.snowDepth(pass, 0));
             refused("travelDays", NO_SUCH_THING, MIDGAME, x -> x.travelDays(pass));

@@ -163,7 +163,11 @@ public final class TextTest {
         MulePostBishops w = Check.start("game 4 9;bishop 0 0 0;bishop 1 2 2;bishop 1 3 2;pass 1 1 1;");
         w.move(0, 0, 10, 0);
         Check.same("daysUntilTurn(1)", 2, w.daysUntilTurn(1));
-        MulePostBishops[] games = {x, y, z, w};
+        // the letter of move 1 waits for ever
+        MulePostBishops v = Check.start("game 4 9;bishop 0 0 0;bishop 1 2 2;bishop 1 3 2;pass 1 0 0;");
+        v.move(0, 0, 10, 0);
+        Check.same("daysUntilTurn(1)", NONE, v.daysUntilTurn(1));
+        MulePostBishops[] games = {x, y, z, w, v};
         for (MulePostBishops game : games) {
             Check.same("load()", 0, Check.load(game, "game 4 9;bishop 0 0 0;bishop 0 0 1;bishop 1 2 2;bishop 1 0 3;pass 1 1 1;"));
             Check.same("day()", 0, game.day());
@@ -176,6 +180,8 @@ public final class TextTest {
             Check.same("meanTravel()", 0.0f, game.meanTravel());
             Check.same("contradictions()", 0, game.contradictions());
             Check.same("letterCount()", 0, game.letterCount());
+            Check.same("no letter is awaited", "-1 -1", game.awaitedLetter(0) + " " + game.awaitedLetter(1));
+            Check.same("the only pass", "0 0", game.fastestPass(0) + " " + game.fastestPass(1));
             game.move(0, 0, 10, 0);
             Check.same("letterState(0)", MulePostBishops.WAITING, game.letterState(0));
             Check.same("arrivalDay(0)", 2, game.arrivalDay(0));
